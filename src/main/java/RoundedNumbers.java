@@ -22,6 +22,10 @@ public final class RoundedNumbers {
     private static final int SET_LIMIT = 250;
     private static final int SCALE_LIMIT = 500;
     private static final int REMAINDER_LIMIT = 60;
+    private static final long LEAST_INT = -2147483648L;
+    private static final long GREATEST_INT = 2147483647L;
+    private static final long LEAST_LONG = -9223372036854775808L;
+    private static final long GREATEST_LONG = 9223372036854775807L;
     private static final int NO_ORDER = -2;
     private static final int NO_COUNT = -100;
 
@@ -213,8 +217,8 @@ public final class RoundedNumbers {
         if (!isRegister(r)) {
             return NONE;
         }
-        long least = wide ? Long.MIN_VALUE : Integer.MIN_VALUE;
-        long greatest = wide ? Long.MAX_VALUE : Integer.MAX_VALUE;
+        long least = wide ? LEAST_LONG : LEAST_INT;
+        long greatest = wide ? GREATEST_LONG : GREATEST_INT;
         if (topOf(r) >= 63) {
             return mantissas[r] < 0 ? least : greatest;
         }
@@ -530,13 +534,14 @@ public final class RoundedNumbers {
         private void lift() {
             int up = LIFTED_BITS - length();
             if (up < 0) {
+                // Only a sum whose carry took one bit more.
                 shiftDown(-up);
             } else {
                 shiftUp(up);
             }
         }
 
-        /** Only for a number that has no rest or is lifted. */
+        /** Only for a number without a rest, or by no bits: a rest could not be shifted along. */
         private void shiftUp(int bits) {
             if (bits >= 64) {
                 high = low << (bits - 64);

@@ -33,6 +33,7 @@ public final class PromisesTest {
         stepNarrow();
         stepEdges();
         cubeRoot();
+        cubeRootBetween();
         compare();
         oddAndExponent();
         whole();
@@ -615,6 +616,23 @@ public final class PromisesTest {
         for (int r : WRONG) {
             due("cubeRoot a " + r, x.cubeRoot(r, 7), REFUSED);
             due("cubeRoot r " + r, x.cubeRoot(7, r), REFUSED);
+        }
+    }
+
+    /** The PLACES around a root that is no NUMBER: the two next to it are acceptable and no others. */
+    private static void cubeRootBetween() {
+        begin();
+        long[][] below = {{2, 5674179970822794L}, {4, 7149018786131516L}};
+        for (long[] pair : below) {
+            for (int i = -2; i <= 3; i++) {
+                int due = i == 0 || i == 1 ? 1 : 0;
+                put(0, pair[0], 0);
+                put(1, pair[1] + i, -52);
+                due(pair[0] + ", " + i + " PLACES above", x.cubeRoot(0, 1), due);
+                put(0, -pair[0], -90);
+                put(1, -pair[1] - i, -82);
+                due("the same below 0", x.cubeRoot(0, 1), due);
+            }
         }
     }
 
