@@ -92,11 +92,16 @@ public final class Promise14CubeRootTest extends Trial {
         root("a just below 8", s * ALL, -50, s * ((1L << 52) + 1), -51, 0);
     }
 
-    /** Rows of a and of the number just below its cube root: that one and the next are acceptable. */
+    /**
+     * Rows of a and of the number just below its cube root: that one and the next are acceptable. The last two a are
+     * the two nearest to (2^32 + 1)^3 = 2^96 + 3 * 2^64 + 3 * 2^32 + 1, below and above it.
+     */
     private void rootsBetweenTwoNumbers(int s) {
+        long n = ((1L << 32) + 1) << 20;
         long[][] rows = {{1, -100, 7149018786131516L, -86}, {(1L << 52) + 1, -152, 7149018786131517L, -86},
             {ALL, 47, 5674179970822794L, -19}, {1, 98, 7149018786131516L, -20}, {2, 0, 5674179970822794L, -52},
-            {3, 0, 6495314627411702L, -52}, {10, 0, 4851355633610830L, -51}};
+            {3, 0, 6495314627411702L, -52}, {10, 0, 4851355633610830L, -51},
+            {(1L << 32) + 3, 64, n - 1, -20}, {(((1L << 32) + 3) << 20) + 1, 44, n, -20}};
         for (long[] row : rows) {
             sentence("less than one PLACE away from the cube root of " + s * row[0] + " * 2^" + row[1]);
             for (int i = -3; i <= 4; i++) {

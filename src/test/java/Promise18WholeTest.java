@@ -9,6 +9,7 @@ public final class Promise18WholeTest extends Trial {
     @Override
     void sentences() {
         truncated();
+        truncatedToZero();
         truncatedAtEveryWholeNumberOfBits();
         endsOf31Bits();
         endsOf63Bits();
@@ -42,6 +43,16 @@ public final class Promise18WholeTest extends Trial {
             same("2.5", s * 5, -1, 2 * s);
             same("just below 3", s * ((3L << 51) - 1), -51, 2 * s);
             same("3", s * 3, 0, 3 * s);
+        }
+    }
+
+    private void truncatedToZero() {
+        sentence("truncated towards 0, below 1");
+        for (int s : SIGNS) {
+            for (int n = 1; n <= 100; n++) {
+                same("2^-" + n, s, -n, 0);
+                same("just below 2^-" + (n - 1), s * ALL, -52 - n, 0);
+            }
         }
     }
 

@@ -15,6 +15,9 @@ public final class TermsOperationTest extends Trial {
         for (Operation operation : Operation.values()) {
             takenBeforePut(operation);
             mustBeNarrow(operation);
+            for (Operation before : Operation.values()) {
+                nothingIsLeftOf(before, operation);
+            }
         }
         takenBeforePutByHand();
         rangeWithATakenRegister();
@@ -63,6 +66,38 @@ public final class TermsOperationTest extends Trial {
     /** All are NARROW but, maybe, what the operation gave, whichever register has it. */
     private static long narrowOnes(RoundedNumbers free) {
         return Math.abs(free.odd(7)) <= ALL_NARROW ? 8 : 7;
+    }
+
+    /** What an OPERATION gives does not hang on what was rounded, or was too long, before it. */
+    private void nothingIsLeftOf(Operation before, Operation operation) {
+        sentence("What it gives, " + operation.title() + " after " + before.title());
+        for (int from = 0; from <= 3; from += 3) {
+            if (from == 3 && before.takesNarrow) {
+                continue;
+            }
+            RoundedNumbers alone = longOnes();
+            RoundedNumbers x = longOnes();
+            due("before", before.call(x, 6, from, from + 1, from + 2), RoundedNumbers.DONE);
+            x.cubeRoot(from, from + 1);
+            for (int a = 0; a <= (operation.takesNarrow ? 0 : 3); a += 3) {
+                due("the answer", operation.call(x, 7, a, a + 1, a + 2), operation.call(alone, 7, a, a + 1, a + 2));
+                due("odd", x.odd(7), alone.odd(7));
+                due("exponent", x.exponent(7), alone.exponent(7));
+                due("LOST", x.count(0), alone.count(0));
+            }
+        }
+    }
+
+    /** Registers 0 .. 2 with 24 bits, 3 .. 5 with 53. */
+    private static RoundedNumbers longOnes() {
+        RoundedNumbers x = new RoundedNumbers();
+        x.set(0, ALL_NARROW, -3);
+        x.set(1, ALL_NARROW - 2, -20);
+        x.set(2, ALL_NARROW - 12, -9);
+        x.set(3, ALL, -30);
+        x.set(4, ALL - 2, -50);
+        x.set(5, ALL - 12, -39);
+        return x;
     }
 
     private static RoundedNumbers threeFiveSeven() {
