@@ -14,6 +14,7 @@ public final class Promise14CubeRootTest extends Trial {
             placeOfAPowerOfTwo(sign);
             placeBelowAPowerOfTwo(sign);
             placeAboveAPowerOfTwo(sign);
+            numbersAboveAPowerOfTwo(sign);
             rootsBetweenTwoNumbers(sign);
             rootIsZero(sign);
             numberIsZero(sign);
@@ -103,10 +104,24 @@ public final class Promise14CubeRootTest extends Trial {
             {3, 0, 6495314627411702L, -52}, {10, 0, 4851355633610830L, -51},
             {(1L << 32) + 3, 64, n - 1, -20}, {(((1L << 32) + 3) << 20) + 1, 44, n, -20}};
         for (long[] row : rows) {
-            sentence("less than one PLACE away from the cube root of " + s * row[0] + " * 2^" + row[1]);
-            for (int i = -3; i <= 4; i++) {
-                root(i + " PLACES above the number below it", s * row[0], (int) row[1], s * (row[2] + i), (int) row[3], i == 0 || i == 1);
-            }
+            rootAbove(s, row[0], (int) row[1], row[2], (int) row[3]);
+        }
+    }
+
+    private void rootAbove(int s, long a, int aE, long below, int rE) {
+        sentence("less than one PLACE away from the cube root of " + s * a + " * 2^" + aE);
+        for (int i = -3; i <= 4; i++) {
+            root(i + " PLACES above the number below it", s * a, aE, s * (below + i), rE, i == 0 || i == 1);
+        }
+    }
+
+    /** The numbers just above 2 and 4: the cubes near them are just above those powers of 2, too. */
+    private void numbersAboveAPowerOfTwo(int s) {
+        long[] aboveTwo = {5674179970822795L, 5674179970822795L, 5674179970822796L, 5674179970822796L, 5674179970822796L};
+        long[] aboveFour = {7149018786131517L, 7149018786131517L, 7149018786131518L, 7149018786131518L, 7149018786131519L};
+        for (int j = 1; j <= 5; j++) {
+            rootAbove(s, (1L << 52) + j, -51, aboveTwo[j - 1], -52);
+            rootAbove(s, (1L << 52) + j, -50, aboveFour[j - 1], -52);
         }
     }
 
