@@ -44,7 +44,7 @@ public final class FaceTest {
             String[] types = Arrays.stream(method.getParameterTypes()).map(Class::getName).toArray(String[]::new);
             methods.add(text.append(String.join(", ", types)).append(")").toString());
             names.add(method.getName());
-            checks.due(method + " is public", Modifier.isPublic(method.getModifiers()) ? 1 : 0, 1);
+            checks.due(method + " is public and of an object", method.getModifiers(), Modifier.PUBLIC);
         }
         checks.due("the methods " + methods + " are the document's", methods.equals(new TreeSet<>(Arrays.asList(METHODS))) ? 1 : 0, 1);
         for (Method method : RoundedNumbers.class.getDeclaredMethods()) {
@@ -56,13 +56,17 @@ public final class FaceTest {
             boolean isStatic = Modifier.isStatic(field.getModifiers());
             checks.due(field + " is final if static", isStatic && !Modifier.isFinal(field.getModifiers()) ? 1 : 0, 0);
             if (!Modifier.isPrivate(field.getModifiers())) {
-                fields.add(field.getName());
+                fields.add(field.getType() + " " + field.getName());
+                checks.due(field + " is a public constant", field.getModifiers(), Modifier.PUBLIC | Modifier.STATIC | Modifier.FINAL);
             }
         }
-        checks.due("the fields " + fields, fields.equals(new TreeSet<>(Arrays.asList("DONE", "REFUSED", "RANGE", "NONE"))) ? 1 : 0, 1);
+        checks.due("the fields " + fields, fields.equals(new TreeSet<>(Arrays.asList("int DONE", "int REFUSED", "int RANGE", "long NONE"))) ? 1 : 0, 1);
         Constructor<?>[] constructors = RoundedNumbers.class.getDeclaredConstructors();
         checks.due("constructors", constructors.length, 1);
         checks.due("its parameters", constructors[0].getParameterCount(), 0);
+        checks.due("it is public", constructors[0].getModifiers(), Modifier.PUBLIC);
+        checks.due("its interfaces", RoundedNumbers.class.getInterfaces().length, 0);
+        checks.due("its class above is Object", RoundedNumbers.class.getSuperclass() == Object.class ? 1 : 0, 1);
         checks.due("the class is public and final", RoundedNumbers.class.getModifiers() & (Modifier.PUBLIC | Modifier.FINAL), Modifier.PUBLIC | Modifier.FINAL);
     }
 
